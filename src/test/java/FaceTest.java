@@ -46,6 +46,11 @@ public final class FaceTest {
             }
         }
         Check.holds("the face is " + due + ", got " + got, due.equals(got));
+        for (Class<?> inside : DriftOrgan.class.getDeclaredClasses()) {
+            for (Method method : inside.getDeclaredMethods()) {
+                Check.holds(method + " bears no name of the face", !FACE.contains(" " + method.getName() + "("));
+            }
+        }
         Constructor<?>[] constructors = DriftOrgan.class.getDeclaredConstructors();
         Check.holds("one public constructor without arguments", constructors.length == 1
                 && Modifier.isPublic(constructors[0].getModifiers()) && constructors[0].getParameterCount() == 0);

@@ -18,6 +18,9 @@ public final class ForesightTest {
         Check.same("until(2)", organ.until(2), 1);
         Check.same("until(3), never", organ.until(3), -1);
         Check.same("until changes nothing", organ.digest(), before);
+        organ.setTide(0);
+        Check.same("until(0) by the tide of now", organ.until(0), 7);
+        organ.setTide(4);
         organ.pass(4);
         Check.same("until(0) now", organ.until(0), 0);
         organ.cut(0, 6);
@@ -55,6 +58,8 @@ public final class ForesightTest {
         silted.pass(2);
         Check.same("silt then", silted.foresee(3, 3), 15);
         Check.same("the most hours", silted.foresee(120, 3), 40);
+        silted.setTide(0);
+        Check.same("by the tide of now", silted.foresee(3, 3), 6);
         refuses(organ, 0, 0, IllegalArgumentException.class);
         refuses(organ, 121, 0, IllegalArgumentException.class);
         refuses(organ, Integer.MIN_VALUE, 0, IllegalArgumentException.class);

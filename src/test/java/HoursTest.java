@@ -118,6 +118,9 @@ public final class HoursTest {
         Check.same("listeners come behind the orders", organ.pipe(1, 3), 14);
         organ.pass(1);
         Check.same("and are there in the next hour", organ.pipe(1, 3), 0);
+        organ = Check.organ(pipes + "cave b mouth 1 deep 1; shut b when 1 = 1; clean p when 1 = 2;");
+        organ.pass(3);
+        Check.same("an order of shut cleans nothing", organ.pipe(1, 3), 6);
         organ = Check.organ("cave a mouth 1 deep 1; pipe p in a length 1; pipe q in a length 1; clean p when sounds p; "
                 + "chord c of p q;");
         organ.pass(24);

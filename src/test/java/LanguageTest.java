@@ -211,6 +211,7 @@ public final class LanguageTest {
         error(2, PIPES + "chord c of p q; chord ^c of p q;");
         fits(CAVES + "pipe a in a length 1; pipe b in b length 1; chord a of a b; chord b of b a;");
         fits("cave ab mouth 1 deep 1; cave a mouth 1 deep 1; cave abc mouth 1 deep 1; cave b mouth 1 deep 1;");
+        fits("cave x9 mouth 1 deep 1; cave xa mouth 1 deep 1; cave x mouth 1 deep 1; cave x0 mouth 1 deep 1;");
         fits("cave a0 mouth 1 deep 1; cave a00 mouth 1 deep 1; cave a mouth 1 deep 1;");
         error(2, "cave abcdefghij mouth 1 deep 1; cave abcdefghi mouth 1 deep 1; cave ^abcdefghij mouth 1 deep 1;");
     }
@@ -340,6 +341,14 @@ public final class LanguageTest {
         Check.same("no caves", organ.count(2), 0);
         Check.same("no pipes", organ.count(3), 0);
         Check.same("the old list once more", Check.teach(organ, PIPES + "chord c of p q;"), 0);
+        String silting = "cave a mouth 1 deep 8; pipe p in a length 40; pipe q in a length 9 reed; chord c of p q;";
+        Check.same("a list that gets silt", Check.teach(organ, silting), 0);
+        organ.setTide(4);
+        organ.pass(3);
+        Check.same("silt", organ.count(12), 9);
+        Check.same("that list again", Check.teach(organ, silting), 0);
+        Check.same("silt begins anew", organ.count(12), 0);
+        Check.same("need begins anew", organ.pipe(1, 4), 4);
         Check.same("hours of a chord begin anew", organ.chord(0, 3), 0);
         Check.same("hours of a pipe begin anew", organ.pipe(0, 6), 0);
     }
