@@ -469,7 +469,7 @@ public final class DriftOrgan {
         return steps;
     }
 
-    // All that is not a loop over a whole row goes through these two, so that no index goes by without being looked at.
+    // What is no loop over a whole row goes through these two, so that no index goes by without being looked at.
     private static int at(int[] row, int index) {
         return index >= 0 && index < row.length ? row[index] : 0;
     }
@@ -1016,10 +1016,13 @@ public final class DriftOrgan {
         private boolean value(int depth) {
             switch (kind()) {
                 case NUMBER:
+                    emit(NUMBER, tokens.numberAt(next));
+                    next++;
+                    return true;
                 case HOUR:
                 case TIDE:
                 case LISTENERS:
-                    emit(kind(), tokens.numberAt(next));
+                    emit(kind(), 0);
                     next++;
                     return true;
                 case PRESSURE:
