@@ -821,8 +821,12 @@ public final class DriftOrgan {
             if (!(take(SHUT) && knownName(caveNames, draft.caves) && take(WHEN))) {
                 return false;
             }
-            int target = numberOf(line + 1, caveNames, draft.caves);
-            return orderTest(SHUT, target);
+            beginOrder(SHUT, numberOf(line + 1, caveNames, draft.caves));
+            if (!test(0)) {
+                return false;
+            }
+            endOrder();
+            return true;
         }
 
         private boolean cleanLine() {
@@ -831,14 +835,11 @@ public final class DriftOrgan {
             if (!(take(CLEAN) && knownName(pipeNames, draft.pipes))) {
                 return false;
             }
-            int target = numberOf(line + 1, pipeNames, draft.pipes);
-            if (take(WHEN)) {
-                return orderTest(CLEAN, target);
+            beginOrder(CLEAN, numberOf(line + 1, pipeNames, draft.pipes));
+            if (take(WHEN) && !test(0)) {
+                return false;
             }
-            if (fault == 0) {
-                draft.orders.beginOrder(CLEAN, target);
-                draft.orders.endOrder();
-            }
+            endOrder();
             return true;
         }
 
@@ -848,17 +849,16 @@ public final class DriftOrgan {
             }
         }
 
-        private boolean orderTest(int sort, int target) {
+        private void beginOrder(int sort, int target) {
             if (fault == 0) {
                 draft.orders.beginOrder(sort, target);
             }
-            if (!test(0)) {
-                return false;
-            }
+        }
+
+        private void endOrder() {
             if (fault == 0) {
                 draft.orders.endOrder();
             }
-            return true;
         }
 
         private boolean newName(int[] names, int told) {
@@ -1159,10 +1159,13 @@ public final class DriftOrgan {
             told++;
         }
 
+        // Not by put(), which would make the calls of teach nine deep.
         void addStep(int sort, int operand) {
-            put(stepSorts, steps, sort);
-            put(operands, steps, operand);
-            steps++;
+            if (steps >= 0 && steps < stepSorts.length && steps < operands.length) {
+                stepSorts[steps] = sort;
+                operands[steps] = operand;
+                steps++;
+            }
         }
     }
 
@@ -1384,7 +1387,8 @@ public final class DriftOrgan {
                 case PRESSURE: return at(moment.pressures, operand);
                 case SILT: return at(moment.silts, operand);
                 case LOUD: return at(moment.louds, operand);
-                case SOUNDS: return moment.sounds(operand) ? 1 : 0;
+                // Not by sounds(), which would make the calls of advise nine deep.
+                case SOUNDS: return at(moment.louds, operand) >= 1 ? 1 : 0;
                 default: return operand;
             }
         }

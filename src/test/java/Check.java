@@ -4,8 +4,22 @@ import java.nio.charset.StandardCharsets;
 final class Check {
     private static int made = 0;
     private static int wrong = 0;
+    private static int sentences = 0;
+    private static String sentence = "";
 
     private Check() {
+    }
+
+    /** Runs the test of one sentence of the document; what is wrong in it is told with the sentence. */
+    static void sentence(String words, Runnable test) {
+        sentences++;
+        int before = made;
+        sentence = "[" + words + "] ";
+        test.run();
+        if (made == before) {
+            fail("nothing is checked");
+        }
+        sentence = "";
     }
 
     static void same(String what, long got, long want) {
@@ -51,7 +65,7 @@ final class Check {
     static void fail(String what) {
         wrong++;
         if (wrong <= 50) {
-            System.out.println(what);
+            System.out.println(sentence + what);
         }
     }
 
@@ -60,7 +74,7 @@ final class Check {
     }
 
     static void end() {
-        System.out.println(made + " checks, " + wrong + " wrong");
+        System.out.println((sentences > 0 ? sentences + " sentences, " : "") + made + " checks, " + wrong + " wrong");
         if (wrong != 0) {
             System.exit(1);
         }
@@ -88,6 +102,20 @@ final class Check {
     static int teach(DriftOrgan organ, String list) {
         feed(organ, list);
         return organ.teach();
+    }
+
+    /** The error due of a list, in which a ^ stands ahead of the token of the error. */
+    static void error(int due, String marked) {
+        int mark = marked.indexOf('^');
+        String list = marked.replace("^", "");
+        DriftOrgan organ = new DriftOrgan();
+        same("teach of " + marked, teach(organ, list), due);
+        same("errorAt of " + marked, organ.errorAt(), mark);
+        same("tape behind " + marked, organ.count(13), 0);
+    }
+
+    static void fits(String list) {
+        error(0, list);
     }
 
     static DriftOrgan organ(String list) {

@@ -23,12 +23,7 @@ public final class LanguageTest {
     }
 
     private static void error(int due, String marked) {
-        int mark = marked.indexOf('^');
-        String list = marked.replace("^", "");
-        DriftOrgan organ = new DriftOrgan();
-        Check.same("teach of " + marked, Check.teach(organ, list), due);
-        Check.same("errorAt of " + marked, organ.errorAt(), mark);
-        Check.same("tape behind " + marked, organ.count(13), 0);
+        Check.error(due, marked);
     }
 
     private static void error1InTest(String marked) {
