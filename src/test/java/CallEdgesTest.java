@@ -37,6 +37,7 @@ public final class CallEdgesTest {
     private static void teachAndErrorAt() {
         Check.sentence("teach: in the place of all that was told before", CallEdgesTest::inThePlaceOfAll);
         Check.sentence("teach: in the place of all, again and again", CallEdgesTest::againAndAgain);
+        Check.sentence("teach: orders and chords told before are heeded no longer", CallEdgesTest::heededNoLonger);
         Check.sentence("teach: what was told before is there no longer", CallEdgesTest::noLongerThere);
         Check.sentence("teach: there are no listeners and complaints then", CallEdgesTest::nobodyBehindTeach);
         Check.sentence("teach: pressure, silt, how loud pipes are and hours begin with 0", CallEdgesTest::beginsWith0);
@@ -328,6 +329,32 @@ public final class CallEdgesTest {
             int one = 193 + time % 3;
             Check.same("teach", Check.teach(organ, longest.replace("194", "" + one) + ";"), 0);
             Check.same("shut by 194 = " + one, organ.cave(0, 4), one == 194 ? 1 : 0);
+        }
+    }
+
+    private static void heededNoLonger() {
+        String pipes = "cave a mouth 1 deep 8; pipe p in a length 40; pipe q in a length 1; pipe r in a length 1; ";
+        StringBuilder chords = new StringBuilder();
+        for (int chord = 0; chord < 6; chord++) {
+            chords.append("chord c").append(chord).append(" of q r; ");
+        }
+        String[] before = {"shut a when 1 = 1; clean p; ".repeat(8), "clean p; shut a when 1 = 1; ".repeat(8),
+            chords.toString(), "silence from 0 to 0; ".repeat(3), "swell high 30 every 1 from 0; ".repeat(5)};
+        String[] lists = {pipes, pipes + "clean q; ", pipes + "chord c of r q; ", pipes + "silence from 1 to 2; ",
+            pipes + "swell high 1 every 7 from 0; "};
+        for (String told : before) {
+            for (String list : lists) {
+                DriftOrgan organ = new DriftOrgan();
+                for (int time = 0; time < 3; time++) {
+                    Check.same("teach of " + told, Check.teach(organ, pipes + told), 0);
+                }
+                organ.pass(3);
+                Check.same("teach of " + list, Check.teach(organ, list), 0);
+                DriftOrgan fresh = new DriftOrgan();
+                fresh.pass(3);
+                Check.same("teach of a new one", Check.teach(fresh, list), 0);
+                Twins.same(told + "before " + list, fresh, organ);
+            }
         }
     }
 

@@ -475,6 +475,7 @@ public final class ForesightEdgesTest {
         Check.same("of what has no silt", Check.organ(Lists.pipes(2) + Lists.chords(1)).best(72), -1);
         Check.same("without chords", silted(6, "").best(1), -1);
         Check.same("if two are silted", silted(6, "chord c of p0 p1;").best(1), -1);
+        Check.same("if it is mute without silt as well", silted(6, "pipe n in a length 6; chord c of n l;").best(1), -1);
         Check.same("by night", silted(0, "chord c of p0 l;").best(3), -1);
         Check.same("by day", silted(6, "chord c of p0 l;").best(3), 0);
         // Cleaning q makes b be shut, where the other chord would sound.
